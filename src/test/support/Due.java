@@ -2,8 +2,14 @@
 final class Due {
     private static int wrong = 0;
     private static int asked = 0;
+    private static String sentence = "";
 
     private Due() {
+    }
+
+    /** The sentence of the document that the answers behind this call hold; told with each wrong one. */
+    static void says(String words) {
+        sentence = "\"" + words + "\": ";
     }
 
     static void is(String call, long want, long got) {
@@ -11,9 +17,15 @@ final class Due {
         if (got != want) {
             wrong++;
             if (wrong <= 50) {
-                System.out.println(call + " answered " + got + ", due is " + want);
+                System.out.println(sentence + call + " answered " + got + ", due is " + want);
             }
         }
+    }
+
+    /** A fraction: what is above and what is below. */
+    static void part(String call, long above, long below, long gotAbove, long gotBelow) {
+        is(call + ", above", above, gotAbove);
+        is(call + ", below", below, gotBelow);
     }
 
     static void is(String call, boolean holds) {
@@ -30,6 +42,15 @@ final class Due {
 
     private static void is(String call, boolean want, boolean got) {
         is(call, want ? 1 : 0, got ? 1 : 0);
+    }
+
+    /** Laid, and so many stretches walked. */
+    static StileCounts walked(String text, int stretches) {
+        StileCounts x = laid(text);
+        for (int k = 1; k <= stretches; k++) {
+            is("walk() of " + text, k, x.walk());
+        }
+        return x;
     }
 
     static void write(StileCounts x, String text) {
