@@ -2,7 +2,10 @@ import java.util.Random;
 
 /** Runs of calls, drawn from seeds that stay, against the slow model; wrong numbers among them. */
 public final class ModelTest {
-    private static final int RUNS = 1500;
+    private static final int RUNS = 3000;
+    // What an object answers behind its 512th call is free; a text to lay takes some 220 calls at most.
+    private static final int MOST_CALLS = 500;
+    private static final int CALLS_OF_A_TEXT = 220;
     private static final int[] FAR_OFF = {Integer.MIN_VALUE, Integer.MIN_VALUE + 1, -1000, 1000, 65536,
         Integer.MAX_VALUE - 1, Integer.MAX_VALUE};
 
@@ -17,9 +20,10 @@ public final class ModelTest {
         StileCounts x = new StileCounts();
         Model m = new Model();
         boolean gentle = r.nextInt(4) != 0;
-        int calls = 200 + r.nextInt(120);
-        for (int i = 0; i < calls && !Due.anyWrong(); i++) {
-            if (r.nextInt(40) == 0 || i == 0 && r.nextBoolean()) {
+        int begin = Due.asked();
+        for (int i = 0; Due.asked() - begin < MOST_CALLS && !Due.anyWrong(); i++) {
+            boolean wanted = r.nextInt(40) == 0 || i == 0 && r.nextInt(4) != 0;
+            if (wanted && Due.asked() - begin + CALLS_OF_A_TEXT < MOST_CALLS) {
                 relay(r, x, m, name);
             }
             step(r, x, m, name + " call " + i, gentle);
@@ -137,7 +141,7 @@ public final class ModelTest {
             }
             case 24 -> {
                 int z = number(r, 0, 9999);
-                int set = number(r, 0, (1 << x.many(0)) - 1);
+                int set = number(r, 0, (1 << m.many(0)) - 1);
                 Due.is(name + " day " + z + " " + set, m.day(z, set, part), x.day(z, set, part));
             }
             default -> Due.is(name + " many", m.many(k), x.many(k));

@@ -65,6 +65,10 @@ final class Due {
         write(x, text);
     }
 
+    static int asked() {
+        return asked;
+    }
+
     static boolean anyWrong() {
         return wrong != 0;
     }
